@@ -503,12 +503,9 @@ public final class WhichHold {
     }
 
     private int tellFrom(Sheet sheet, int first) {
-        int later = sheet.cells[first];
-        // so that the sum below can not wrap around to a minute that would be taken
-        if (later < 0 || later > LAST_MINUTE) {
-            return BAD;
-        }
-        return tell(present.minute + later, sheet.cells[first + 1], sheet.cells[first + 2], sheet.cells[first + 3]);
+        // a sum that wraps around is below 0, so that it is refused as an earlier minute
+        int minute = present.minute + sheet.cells[first];
+        return tell(minute, sheet.cells[first + 1], sheet.cells[first + 2], sheet.cells[first + 3]);
     }
 
     private boolean isOpenAndIdle(int d) {
@@ -587,13 +584,13 @@ public final class WhichHold {
         return reached;
     }
 
+    /** Sets come by their bits, so that of several as small the first is the least. */
     private int fewestDoorsAround(int h, int wet) {
         int open = openDoors();
         int best = open;
         for (int set = 0; set < 1 << plan.doors; set++) {
             boolean fewer = Integer.bitCount(set) < Integer.bitCount(best);
-            boolean asFew = Integer.bitCount(set) == Integer.bitCount(best) && set < best;
-            if ((set & ~open) == 0 && (fewer || asFew) && (reachedFrom(wet, open & ~set) >> h & 1) == 0) {
+            if (fewer && (set & ~open) == 0 && (reachedFrom(wet, open & ~set) >> h & 1) == 0) {
                 best = set;
             }
         }
@@ -700,7 +697,6 @@ public final class WhichHold {
             behind = 0;
             lines = 0;
             found = 0;
-            foundAt = 0;
         }
 
         /** The first FAULT met stands; what is asked behind it is not read any more. */
@@ -988,8 +984,6 @@ public final class WhichHold {
 
         void startFrom(Plan plan) {
             minute = 0;
-            why = 0;
-            seen = NONE;
             System.arraycopy(plan.firstWater, 0, water, 0, MOST_HOLDS);
             System.arraycopy(plan.firstOpen, 0, open, 0, MOST_DOORS);
             System.arraycopy(plan.firstAt, 0, pumpAt, 0, MOST_PUMPS);

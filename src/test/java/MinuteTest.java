@@ -175,6 +175,12 @@ public final class MinuteTest {
         Check.due("pump at 0", 0, x.pump(0, 1));
         Check.due("under way", 3, x.now(6));
         Check.due("orders", 4, x.count(4));
+        int[][] orders = {{0, 0, 0, 0, 1, 2}, {0, 2, 0, 0, 1, 2}, {0, 3, 0, 1, 1, 1}, {0, 4, 0, 1, 3, -4}};
+        for (int k = 0; k < 4; k++) {
+            for (int what = 0; what < 6; what++) {
+                Check.due("given(" + k + ", " + what + ")", orders[k][what], x.given(k, what));
+            }
+        }
         Check.due("sounded stays", 1, x.count(6));
         Check.due("sheet stays", 3, x.count(8));
         Check.due("tape stays", 8, x.count(7));

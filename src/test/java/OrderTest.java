@@ -167,6 +167,10 @@ public final class OrderTest {
         Check.due("not begun", -4, x.given(1, 5));
         Check.due("now(7)", 2, x.now(7));
         Check.due("recall() again", 0, x.recall());
+        WhichHold y = Check.ship(SHIP);
+        y.order(0, 0, 0, 0);
+        Check.due("recall() of the first", 1, y.recall());
+        Check.due("failed", 3, y.given(0, 4));
         x.go(20);
         Check.due("no sail came", 0, x.hole(0, 3));
         Check.due("shut", 0, x.door(0, 5));

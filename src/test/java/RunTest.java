@@ -45,6 +45,15 @@ public final class RunTest {
         Check.due("best what 10 of none", -1, x.best(0, 1, 10));
         Check.due("BAD ahead of STATE", -1, x.best(3, 1, 13));
         Check.due("there are two", -2, x.best(3, 1, 12));
+        WhichHold calm = Check.ship("hold 9 1 9 4;hold 9 1 9 0;door 0 1 0 1 1 ;");
+        for (int n : new int[] {1, 60, 120}) {
+            Check.due("run(" + n + ", 0)", -4, calm.run(n, 0));
+            Check.due("water(" + n + ", 0) and (.., 1)", 4, calm.water(n, 0) + calm.water(n, 1));
+            Check.due("free(" + n + ")", -4, calm.free(n));
+            Check.due("best(0, " + n + ", 0)", n > 60 ? -1 : -4, calm.best(0, n, 0));
+            Check.due("latest(0, " + n + ")", n > 60 ? -1 : n, calm.latest(0, n));
+            Check.due("helps(" + n + ")", n > 60 ? -1 : 0, calm.helps(n));
+        }
         Check.due("the longest", 1, x.run(120, 0) == -1 ? 0 : 1);
         Check.due("the longest", 1, x.best(0, 60, 0) == -1 ? 0 : 1);
         Check.due("the longest", 1, x.latest(0, 60) == -1 ? 0 : 1);
@@ -224,6 +233,11 @@ public final class RunTest {
         Check.due("within less than that: at the end", until - 1, x.latest(0, until - 1));
         WhichHold y = Check.ship("hold 60 1 9 0;hold 60 1 9 0;door 0 1 0 9 1;hole 0 12 1;sinks 20;");
         Check.due("never", -4, y.latest(0, 30));
+        // 10 come, 9 go on to the right, LIST is 4; more would go in the next minute, if it were not shut by then
+        WhichHold z = Check.ship("hold 48 1 9 9;hold 99 2 9 0;door 0 1 0 9 1;hole 0 12 3;lists 4;");
+        Check.due("now or never", 0, z.latest(0, 30));
+        Check.due("it helps at once", 1, z.helps(30));
+        Check.due("within one minute", 1, z.latest(0, 1));
     }
 
     private static void helps() {

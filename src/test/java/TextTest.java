@@ -127,6 +127,10 @@ public final class TextTest {
     private static void misplaced() {
         refused("flood 1;", 2, 0);
         refused("shut;", 2, 0);
+        refused("a", 2, 0);
+        refused("  z", 2, 2);
+        refused("told 9 1 9 0;", 2, 0);
+        refused("hole", 2, 4);
         refused(";", 2, 0);
         refused("7", 2, 0);
         refused(HOLD + ";", 2, 13);
@@ -252,6 +256,16 @@ public final class TextTest {
         Check.due("back", WhichHold.STATE, x.back(1));
         Check.due("sounded stays", 1, x.count(6));
         Check.due("sheets stay", 7, x.count(8));
+        Check.due("safe is as at first", 0, x.rule(4));
+        Check.tell(x, HOLD + HOLD + "hole 1 2 1;safe 1;crews 3;");
+        x.order(0, 2, 0, 0);
+        x.order(0, 4, 1, 1);
+        x.go(3);
+        Check.tell(x, HOLD + HOLD + "hole 1 2 1;");
+        Check.due("no sail", 0, x.hole(0, 3));
+        Check.due("no valve is open", 0, x.hold(1, 5));
+        Check.due("no water", 0, x.now(1));
+        Check.due("safe is as at first", 0, x.rule(4));
         Check.due("a text by which she sinks", 3, Check.tell(x, HOLD + "sinks 8;hold 9 1 9 8;"));
         Check.due("why", 1, x.now(4));
         Check.due("when", 0, x.now(5));
