@@ -1,14 +1,14 @@
 import java.util.Random;
 
-/** Runs of calls by chance (always the same ones), each answer beside that of the Model. */
+/** Runs of calls by chance (always the same ones), each answer beside that of the Model; no object is used for more than 512. */
 public final class FuzzTest {
-    private static final int RUNS = 1500, CALLS = 300;
+    private static final int RUNS = 8000, MOST_CALLS = 512, LONGEST_STEP = 60, PORTRAIT = 250;
     private static final String[] LINES = {"hold", "door", "hole", "pump", "crews", "sinks", "lists", "trims", "safe"};
 
     private static Random chance;
     private static WhichHold x;
     private static Model m;
-    private static int holds, doors, holes, pumps;
+    private static int holds, doors, holes, pumps, made;
     private static StringBuilder history;
 
     public static void main(String[] args) {
@@ -18,8 +18,14 @@ public final class FuzzTest {
             m = new Model();
             history = new StringBuilder();
             holds = doors = holes = pumps = 0;
-            for (int c = 0; c < CALLS && !Check.anyWrong(); c++) {
+            made = 0;
+            boolean ends = chance.nextBoolean();
+            int most = MOST_CALLS - LONGEST_STEP - (ends ? PORTRAIT : 0);
+            for (int c = 0; made < most && !Check.anyWrong(); c++) {
                 step(c);
+            }
+            if (ends) {
+                portrait();
             }
             if (Check.anyWrong()) {
                 System.out.println("run " + r + history);
@@ -50,6 +56,11 @@ public final class FuzzTest {
 
     private static void due(String call, int want, int got) {
         history.append("\n  ").append(call).append(" = ").append(got);
+        compare(call, want, got);
+    }
+
+    private static void compare(String call, int want, int got) {
+        made++;
         Check.due(call, want, got);
     }
 
@@ -145,7 +156,7 @@ public final class FuzzTest {
     private static void step(int c) {
         if (c == 0 || upTo(60) == 0) {
             tell();
-            portrait();
+            glance();
             return;
         }
         int h = m.ship.holds.size() - 1;
@@ -171,12 +182,12 @@ public final class FuzzTest {
             case 2: a = about(o); b = about(4); due("hole(" + a + ", " + b + ")", m.hole(a, b), x.hole(a, b)); break;
             case 3: a = about(p); b = about(1); due("pump(" + a + ", " + b + ")", m.pump(a, b), x.pump(a, b)); break;
             case 4: a = about(4); due("rule(" + a + ")", m.rule(a), x.rule(a)); break;
-            case 5: a = about(h); b = about(m.hold(a, 0)); due("put(" + a + ", " + b + ")", m.put(a, b), x.put(a, b)); portrait(); break;
+            case 5: a = about(h); b = about(m.hold(a, 0)); due("put(" + a + ", " + b + ")", m.put(a, b), x.put(a, b)); glance(); break;
             case 6:
-            case 7: a = upTo(6) == 0 ? about(120) : about(4); due("go(" + a + ")", m.go(a), x.go(a)); portrait(); break;
+            case 7: a = upTo(6) == 0 ? about(120) : about(4); due("go(" + a + ")", m.go(a), x.go(a)); glance(); break;
             case 8: a = about(7); due("now(" + a + ")", m.now(a), x.now(a)); break;
             case 9: a = about(1); due("keep(" + a + ")", m.keep(a), x.keep(a)); break;
-            case 10: a = about(1); due("back(" + a + ")", m.back(a), x.back(a)); portrait(); break;
+            case 10: a = about(1); due("back(" + a + ")", m.back(a), x.back(a)); glance(); break;
             case 11: if (upTo(3) == 0) { due("recall()", m.recall(), x.recall()); } break;
             case 12: a = about(m.tape.length()); due("end(" + a + ")", m.end(a), x.end(a)); break;
             default: if (upTo(10) == 0) { feed("hold 1 1"); } break;
@@ -226,7 +237,7 @@ public final class FuzzTest {
                 c = about(b < 2 ? d : b == 2 ? m.ship.holes.size() - 1 : b == 3 ? m.ship.pumps.size() - 1 : h);
                 e = b == 4 ? about(1) : upTo(3) == 0 ? -4 : about(h);
                 due("order(" + a + ", " + b + ", " + c + ", " + e + ")", m.order(a, b, c, e), x.order(a, b, c, e));
-                portrait();
+                glance();
                 break;
             case 29: a = about(m.ship.orders.size() - 1); b = about(5); due("given(" + a + ", " + b + ")", m.given(a, b), x.given(a, b)); break;
             case 30: sound(); break;
@@ -243,7 +254,7 @@ public final class FuzzTest {
                 e = upTo(3) == 0 ? about(10) : upTo(3);
                 due("read(" + a + ", " + b + ", " + c + ", " + e + ")", m.read(a, b, c, e), x.read(a, b, c, e));
                 due("torn()", m.torn, x.torn());
-                portrait();
+                glance();
                 break;
             default: a = about(8); due("count(" + a + ")", m.count(a), x.count(a)); break;
         }
@@ -282,22 +293,46 @@ public final class FuzzTest {
         }
     }
 
-    /** All that can be asked of how it is, after what may have changed it. */
+    /** A little of how it is, after what may have changed it. */
+    private static void glance() {
+        compare("now(1)", m.now(1), x.now(1));
+        int what = upTo(7);
+        int h = upTo(7);
+        int k = upTo(11);
+        compare("now(" + what + ")", m.now(what), x.now(what));
+        compare("hold(" + h + ", 3)", m.hold(h, 3), x.hold(h, 3));
+        compare("given(" + k + ", 4)", m.given(k, 4), x.given(k, 4));
+    }
+
+    /** All that can be asked of how it is. */
     private static void portrait() {
         for (int what = 0; what < 9; what++) {
-            Check.due("now(" + what + ")", m.now(what), x.now(what));
-            Check.due("count(" + what + ")", m.count(what), x.count(what));
-            Check.due("rule(" + what + ")", m.rule(what), x.rule(what));
-            for (int i = 0; i < 10; i++) {
-                Check.due("hold(" + i + ", " + what + ")", m.hold(i, what), x.hold(i, what));
-                Check.due("door(" + i + ", " + what + ")", m.door(i, what), x.door(i, what));
+            compare("now(" + what + ")", m.now(what), x.now(what));
+            compare("count(" + what + ")", m.count(what), x.count(what));
+            compare("rule(" + what + ")", m.rule(what), x.rule(what));
+        }
+        for (int h = 0; h < m.ship.holds.size(); h++) {
+            for (int what = 0; what < 6; what++) {
+                compare("hold(" + h + ", " + what + ")", m.hold(h, what), x.hold(h, what));
             }
-            for (int i = 0; i < 5; i++) {
-                Check.due("hole(" + i + ", " + what + ")", m.hole(i, what), x.hole(i, what));
-                Check.due("pump(" + i + ", " + what + ")", m.pump(i, what), x.pump(i, what));
+        }
+        for (int d = 0; d < m.ship.doors.size(); d++) {
+            for (int what = 0; what < 7; what++) {
+                compare("door(" + d + ", " + what + ")", m.door(d, what), x.door(d, what));
             }
-            for (int k = 0; k < 13; k++) {
-                Check.due("given(" + k + ", " + what + ")", m.given(k, what), x.given(k, what));
+        }
+        for (int h = 0; h < m.ship.holes.size(); h++) {
+            for (int what = 0; what < 5; what++) {
+                compare("hole(" + h + ", " + what + ")", m.hole(h, what), x.hole(h, what));
+            }
+        }
+        for (int p = 0; p < m.ship.pumps.size(); p++) {
+            compare("pump(" + p + ", 0)", m.pump(p, 0), x.pump(p, 0));
+            compare("pump(" + p + ", 1)", m.pump(p, 1), x.pump(p, 1));
+        }
+        for (int k = 0; k < m.ship.orders.size(); k++) {
+            for (int what = 0; what < 6; what++) {
+                compare("given(" + k + ", " + what + ")", m.given(k, what), x.given(k, what));
             }
         }
     }

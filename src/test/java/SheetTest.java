@@ -60,21 +60,20 @@ public final class SheetTest {
 
     /** What a cell keeps is told by the where of an order for a door. */
     private static void lanes() {
-        WhichHold x = Check.ship(SHIP);
         int[] laid = {127, 128, 255, 256, 32767, 32768, 65535, 65536, Integer.MAX_VALUE, Integer.MIN_VALUE, -1, -129};
         for (int lane = 0; lane < 3; lane++) {
             for (int v : laid) {
-                Check.tell(x, SHIP);
+                WhichHold x = Check.ship(SHIP);
                 x.sheet(1, lane, 4);
                 row(x, 1, 0, 0, 0, 0, v);
                 Check.due("read", 1, x.read(1, lane, 0, 1));
                 Check.due("cell of lane " + lane + " of " + v, lane == 0 ? (byte) v : lane == 1 ? (short) v : v, x.given(0, 3));
             }
         }
+        WhichHold x = Check.ship(SHIP);
         x.sheet(1, 2, 4);
         row(x, 1, 0, 9, 9, 9, 9);
         x.sheet(1, 2, 4);
-        Check.tell(x, SHIP);
         x.read(1, 2, 0, 1);
         Check.due("a new sheet has cells 0", 0, x.given(0, 3));
     }
