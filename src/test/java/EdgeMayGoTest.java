@@ -218,6 +218,8 @@ public final class EdgeMayGoTest {
         Check.due("as she is she SINKS", NONE, x.most(0));
         Check.due("as she is she SINKS", NONE, x.most(1));
         Check.due("BAD", BAD, x.most(2));
+        Edge.refused("most(0) of the sunk", Edge::sunk, NONE, z -> z.most(0));
+        Edge.refused("most(1) of the sunk", Edge::sunk, NONE, z -> z.most(1));
         WhichHold y = Check.ship("hold 40 0 9 40;hold 40 2 9 0;lists 9;");
         Check.due("not none, but both", 2, y.most(0));
         Check.due("not none, but both", 3, y.most(1));
@@ -287,6 +289,8 @@ public final class EdgeMayGoTest {
         Check.due("upright(3)", BAD, x.upright(3));
         Check.due("upright(-1)", BAD, x.upright(-1));
         for (int what = 0; what < 3; what++) {
+            int w = what;
+            Edge.refused("upright(" + what + ") of the sunk", Edge::sunk, NONE, y -> y.upright(w));
             Check.due("upright(" + what + ") of a new one", 0, new WhichHold().upright(what));
         }
     }
@@ -398,6 +402,10 @@ public final class EdgeMayGoTest {
         Check.due("a sail is over it", NONE, x.dry(7, 0));
         WhichHold full = Check.ship("hold 9 1 9 9;hole 0 1 1;");
         Check.due("a full one", NONE, full.dry(0, 0));
+        for (int what = 0; what < 2; what++) {
+            int w = what;
+            outside("dry(0, " + what + ")", NONE, y -> y.dry(0, w));
+        }
     }
 
     /** No way leads to it: none to be shut. */

@@ -343,6 +343,7 @@ public final class EdgeMinuteTest {
     private static void keepAnswers() {
         for (int i = 0; i < 2; i++) {
             WhichHold x = Edge.sunk();
+            x.end(0);
             x.text();
             Check.due("keep(" + i + ")", 0, x.keep(i));
             Check.due("keep(" + i + ") again", 1, x.keep(i));

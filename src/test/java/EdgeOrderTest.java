@@ -287,8 +287,10 @@ public final class EdgeOrderTest {
             }
         }
         WhichHold x = fullShip();
-        for (int what : new int[] {-1, 6, 7, Edge.FAR, Edge.LOW}) {
-            Check.due("given(11, " + what + ")", BAD, x.given(11, what));
+        for (int wrong : new int[] {-1, 6, 7, Edge.FAR, Edge.LOW}) {
+            Check.due("given(11, " + wrong + ")", BAD, x.given(11, wrong));
+            Edge.refused("given(" + wrong + ", 4)", Edge::busy, BAD, y -> y.given(wrong, 4));
+            Edge.refused("given(0, " + wrong + ")", Edge::busy, BAD, y -> y.given(0, wrong));
         }
     }
 

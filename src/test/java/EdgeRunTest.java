@@ -44,6 +44,7 @@ public final class EdgeRunTest {
         bestIsWithoutOthers();
         bestOfTheSunk();
         bestAsSheIsNow();
+        bestOfEachKAsSheIsNow();
         bestNotOfAGreaterShip();
     }
 
@@ -311,6 +312,10 @@ public final class EdgeRunTest {
             Edge.refused("best(" + k + ", 9, 0)", Edge::busy, BAD, x -> x.best(k, 9, 0));
             Check.due("best(" + k + ", 9, 10)", BAD, three().best(k, 9, 10));
         }
+        for (int what : new int[] {-1, 2, 9, 12, Edge.FAR, Edge.LOW}) {
+            Edge.refused("best(2, 9, " + what + ")", Edge::busy, BAD, x -> x.best(2, 9, what));
+            Edge.refused("best(2, 9, " + what + ") of the sunk", Edge::sunk, BAD, x -> x.best(2, 9, what));
+        }
         for (int k = 0; k < 4; k++) {
             WhichHold x = three();
             for (int n : new int[] {1, 2, 59, 60}) {
@@ -343,6 +348,7 @@ public final class EdgeRunTest {
                 Check.due("BAD of " + k + " among " + many, BAD, x.best(k, 61, 0));
             }
         }
+        Edge.refused("best of 3 among 2", Edge::sunk, STATE, x -> x.best(3, 9, 0));
         Edge.refused("best of 3 among 2", () -> Check.ship(holds + lines[0] + lines[1]), STATE, x -> x.best(3, 9, 12));
         WhichHold sailed = Check.ship(holds + "hole 0 3 1;door 0 1 0 1 1;");
         sailed.order(0, 2, 0, 0);
@@ -522,6 +528,27 @@ public final class EdgeRunTest {
         Check.due("behind text: the DOOR", 0, x.best(1, 9, 10));
     }
 
+    /** BEST is of now, for each k: what was BEST before she changed is not told again. */
+    private static void bestOfEachKAsSheIsNow() {
+        String text = "hold 99 1 9 0;hold 99 1 9 0;hold 99 1 9 0;door 0 1 0 9 1;hole 0 12 1;hole 1 3 1;";
+        for (int k = 0; k <= 3; k++) {
+            WhichHold x = Check.ship(text);
+            int[] was = {x.best(k, 9, 1), 0, 0, 0};
+            x.keep(0);
+            x.put(2, 7);
+            was[1] = x.best(k, 9, 1);
+            x.go(2);
+            was[2] = x.best(k, 9, 1);
+            x.back(0);
+            was[3] = x.best(k, 9, 1);
+            Check.due("7 tons more by put", was[0] + 7, was[1]);
+            Check.due("later more comes in", 1, was[2] > was[1] ? 1 : 0);
+            Check.due("as it was", was[0], was[3]);
+            Check.tell(x, text.replaceFirst("0;door", "5;door"));
+            Check.due("5 tons more by a text", was[0] + 5, x.best(k, 9, 1));
+        }
+    }
+
     /** The DOORS and HOLES of an earlier text are none. */
     private static void bestNotOfAGreaterShip() {
         WhichHold x = Check.ship("hold 9 1 9 0;hold 9 1 9 0;" + "door 0 1 0 1 1;".repeat(10) + "hole 0 1 1;".repeat(4));
@@ -613,7 +640,15 @@ public final class EdgeRunTest {
         String text = "hold 99 1 9 90;hold 99 2 9 0;door 0 1 0 9 2;lists 4;";
         Check.due("it takes two minutes", NONE, Check.ship(text).latest(0, 60));
         Check.due("it takes two minutes", NONE, Check.ship(text).latest(0, 2));
-        Edge.refused("latest of the sunk", Edge::sunk, STATE, x -> x.latest(0, 9));
+        Edge.refused("latest of the sunk, under way", Edge::sunk, STATE, x -> x.latest(0, 9));
+        Edge.refused("latest of who SINKS anyhow", () -> {
+            WhichHold x = Edge.sunk();
+            x.back(0);
+            x.order(0, 4, 0, 0);
+            x.order(50, 4, 0, 1);
+            x.keep(1);
+            return x;
+        }, NONE, x -> x.latest(0, 60));
         WhichHold x = Check.ship("hold 9 1 9 9;hold 9 1 9 0;door 0 1 0 1 1;sinks 9;");
         for (int n : new int[] {1, 60}) {
             Check.due("latest(0, " + n + ") of the sunk", NONE, x.latest(0, n));

@@ -46,6 +46,7 @@ public final class EdgeSheetTest {
 
     private static void refusals() {
         readBadOrder();
+        readRefusedChangesNothing();
         readEachBad();
         readFull();
         readFirstMet();
@@ -402,6 +403,23 @@ public final class EdgeSheetTest {
                 }
             }
         }
+    }
+
+    private static WhichHold busyAndFull() {
+        WhichHold x = Edge.busy();
+        for (int k = 0; k < 6; k++) {
+            x.order(20, 4, 0, 1);
+        }
+        return x;
+    }
+
+    /** "then none came": and nothing else has changed. */
+    private static void readRefusedChangesNothing() {
+        Edge.refused("ORDER 1 is BAD", Edge::busy, -21, x -> x.read(0, 0, 0, 2));
+        Edge.refused("ORDER 0 is BAD", Edge::busy, -20, x -> x.read(0, 0, 4, 1));
+        Edge.refused("ORDER 1 of the sunk is BAD", Edge::sunk, -21, x -> x.read(0, 0, 0, 2));
+        Edge.refused("FULL", EdgeSheetTest::busyAndFull, FULL, x -> x.read(0, 0, 0, 1));
+        Edge.refused("BAD ahead of FULL", EdgeSheetTest::busyAndFull, -20, x -> x.read(0, 0, 4, 1));
     }
 
     /** Each way in which order() answers BAD. */

@@ -327,11 +327,22 @@ public final class EdgeShipTest {
 
     /** What is only asked, or refused, changes nothing. */
     private static void askingChangesNothing() {
-        Edge.changesNothing("hold .. rule", Edge::busy, x -> x.hold(0, 3) + x.hold(0, 4) + x.hold(9, 0) + x.hold(0, 6) + x.door(0, 5)
-            + x.door(2, 0) + x.door(0, 7) + x.hole(0, 4) + x.hole(2, 0) + x.hole(0, 5) + x.pump(0, 1) + x.pump(2, 0) + x.pump(0, 2)
-            + x.rule(0) + x.rule(5) + x.rule(-1));
-        Edge.changesNothing("fault, torn, now, given, count", Edge::busy, x -> x.fault() + x.torn() + x.now(0) + x.now(8) + x.now(-1)
-            + x.given(0, 0) + x.given(9, 9) + x.given(-1, 0) + x.count(0) + x.count(9) + x.count(-1));
+        for (Edge.Past past : new Edge.Past[] {Edge::busy, Edge::sunk}) {
+            for (int wrong : new int[] {-1, 9, Edge.FAR, Edge.LOW}) {
+                Edge.refused("hold", past, BAD, x -> x.hold(wrong, 3));
+                Edge.refused("door", past, BAD, x -> x.door(wrong, 5));
+                Edge.refused("hole", past, BAD, x -> x.hole(wrong, 4));
+                Edge.refused("pump", past, BAD, x -> x.pump(wrong, 1));
+                Edge.refused("rule", past, BAD, x -> x.rule(wrong));
+                Edge.refused("now", past, BAD, x -> x.now(wrong));
+            }
+            Edge.refused("what of a HOLD", past, BAD, x -> x.hold(0, 6));
+            Edge.refused("what of a DOOR", past, BAD, x -> x.door(0, 7));
+            Edge.refused("what of a HOLE", past, BAD, x -> x.hole(0, 5));
+            Edge.refused("what of a PUMP", past, BAD, x -> x.pump(0, 2));
+            Edge.changesNothing("what there is", past, x -> x.hold(0, 3) + x.hold(0, 4) + x.door(0, 5) + x.hole(0, 4) + x.pump(0, 1)
+                + x.rule(0) + x.fault() + x.torn() + x.now(0) + x.now(2) + x.given(0, 0) + x.count(0));
+        }
     }
 
     // ---- promise 11

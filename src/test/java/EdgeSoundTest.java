@@ -77,7 +77,11 @@ public final class EdgeSoundTest {
             Check.due("count(6)", 0, x.count(6));
             Check.due("wipe() again", 0, x.wipe());
         }
-        Edge.refused("wipe() of none", Edge::sunk, 0, x -> x.wipe());
+        Edge.refused("wipe() of none", () -> {
+            WhichHold x = Edge.busy();
+            x.wipe();
+            return x;
+        }, 0, x -> x.wipe());
     }
 
     /** What is sounded behind wipe() is the first again: of what was before nothing is left. */

@@ -696,11 +696,17 @@ public final class EdgeTextTest {
     /** Promise 4: "-10 less the place of its FAULT: that which was told stays." */
     private static void refusedTextStays() {
         String[] texts = {HOLD + "crews 3;.", HOLD + ";", "hold 9 1 9 10;", "lists 9;lists 9;", HOLD.repeat(9)};
-        String[] short1 = {".", ";", "crews 0;", "safe 0", "pump"};
-        for (int i = 0; i < 3; i++) {
-            String text = texts[i];
-            String other = short1[i];
-            Edge.alike("refused: " + text, () -> refusedBusy(other), () -> refusedBusy(text));
+        for (String text : texts) {
+            Edge.alikeButFault("refused: " + text, () -> {
+                WhichHold x = Edge.busy();
+                x.end(0);
+                return x;
+            }, () -> {
+                WhichHold x = Edge.busy();
+                x.end(0);
+                Check.tell(x, text);
+                return x;
+            });
         }
         for (String text : texts) {
             WhichHold x = Edge.busy();
@@ -713,13 +719,6 @@ public final class EdgeTextTest {
             }
             Check.due("THE TAPE is empty", 0, x.count(7));
         }
-    }
-
-    private static WhichHold refusedBusy(String text) {
-        WhichHold x = Edge.busy();
-        x.end(0);
-        Check.tell(x, text);
-        return x;
     }
 
     /** What a refused text had told is not there in the next one. */
